@@ -30,6 +30,9 @@ public final class ActsTest {
         Checks.due("judge: below 0", x.judge(0, -1), 100);
         Checks.due("judge: far below 0", x.judge(0, Integer.MIN_VALUE), 100);
         Checks.due("judge: place 3", x.judge(0, 3), 0);
+        x.shift(0, 2, 0, 0, 3);
+        Checks.due("judge: all so from place 0", x.judge(0, 0), -5);
+        x.item(0, 2, 5);
         x.item(0, 3, 5);
         x.item(0, 4, 6);
         Checks.due("judge: the row ends behind two", x.judge(0, 3), 102);
@@ -119,6 +122,7 @@ public final class ActsTest {
         x.house(6, 0, 0);
         Checks.due("a house behind an undo has a new row", x.row(2, 0, 1), 0);
         undoNotes();
+        undoMore();
         undoStreets();
     }
 
@@ -136,6 +140,49 @@ public final class ActsTest {
         x.undo();
         Checks.due("what was seen is as it was", x.lied(1), 1);
         Checks.due("what was booked is as it was", x.looked(), -5);
+    }
+
+    private static void undoMore() {
+        MiddleThree x = Checks.plain(5, 6, 7);
+        x.see(1, 6);
+        x.image();
+        x.see(-1, 0);
+        x.see(2, 7);
+        x.undo();
+        Checks.due("house 1 is seen again, not house 2", x.lied(1), 1);
+        x = Checks.town(0, 0, 1, 0, 0, 1, 0, 0, 1, 0, 0, 1, 0, 0, 1, 6, 0, 1, 6, 0, 9);
+        for (int part = 0; part < 4; part++) {
+            x.row(5, part, part);
+            x.row(6, part, 4 - part);
+        }
+        x.image();
+        for (int part = 0; part < 4; part++) {
+            x.row(5, part, 4);
+            x.row(6, part, 0);
+        }
+        x.undo();
+        for (int part = 0; part < 4; part++) {
+            Checks.due("the row of house 5", x.row(5, part, 0), part);
+            Checks.due("the row of house 6", x.row(6, part, 0), 4 - part);
+        }
+        x = Checks.plain(5, 9);
+        x.image();
+        x.house(6, 9, 99);
+        x.house(6, 9, 99);
+        for (int part = 0; part < 4; part++) {
+            x.row(2, part, 4);
+            x.row(3, part, 4);
+        }
+        x.undo();
+        Checks.due("no trace of the third: lots", x.lots(), -5);
+        Checks.due("no trace of the third: stays", x.stays(), 0);
+        Checks.due("no trace of the third: down", x.down(1), 9);
+        x.house(6, 0, 1);
+        x.house(6, 0, 1);
+        for (int part = 0; part < 4; part++) {
+            Checks.due("a new row", x.row(2, part, 1), 0);
+            Checks.due("a new row", x.row(3, part, 1), 0);
+        }
     }
 
     private static void undoStreets() {

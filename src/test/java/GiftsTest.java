@@ -126,6 +126,24 @@ public final class GiftsTest {
         for (int part = 0; part < 4; part++) {
             Checks.due("rows stay", x.row(0, part, 4), 4);
         }
+        // the told one ahead of the last comes to be the last but one, or the last, with its row and its v
+        x = Checks.town(1, 1, 5, 1, 9, 45, 1, 2, 10, 6, 0, 7, 0, 0, 60);
+        for (int part = 0; part < 4; part++) {
+            x.row(3, part, 4);
+        }
+        Model model = new Model();
+        for (int h = 0; h < 5; h++) {
+            model.house(x.of(h, 0), x.of(h, 1), x.of(h, 2));
+        }
+        for (int part = 0; part < 4; part++) {
+            model.row(3, part, 4);
+        }
+        for (int n = 0; n <= 99; n += 9) {
+            Checks.due("build: all that is theirs", x.build(0, 0, n, 0), model.build(0, 0, n, 0));
+            Checks.due("build: all that is theirs", x.build(0, 0, n, 1), model.build(0, 0, n, 1));
+            Checks.due("build: another told one", x.build(6, 0, n, 0), model.build(6, 0, n, 0));
+            Checks.due("build: another told one", x.build(6, 0, n, 1), model.build(6, 0, n, 1));
+        }
     }
 
     private static void down() {
@@ -143,10 +161,13 @@ public final class GiftsTest {
         Checks.due("down: the last", x.down(0), 2);
         Checks.due("down: the last", x.down(1), 14);
         Checks.due("down: several, the first", Checks.plain(5, 5, 5).down(0), 0);
+        Checks.due("down of seven", Checks.plain(1, 2, 3, 4, 5, 6, 7).down(1), 27);
         x = Checks.plain(10, 20, 30);
         Checks.street(x, "tax 99 h=0");
         Checks.due("down: those behind have 1 less", x.down(1), 30);
         Checks.earned("down changes nothing", x, 10, 20, 30);
+        // without house 0 they earn 5, 25 and 45
+        Checks.due("down: v goes along", Checks.town(0, 0, 0, 1, 1, 0, 1, 5, 0, 1, 9, 0).down(1), 75);
         // without house 1 the told one earns the most of itself and 60, without house 0 too
         x = Checks.town(0, 0, 60, 0, 0, 1, 6, 0, 5);
         for (int part = 0; part < 4; part++) {

@@ -363,6 +363,12 @@ public final class HousesTest {
         Checks.due("full ahead of a fault", Checks.street(x, "x"), -4);
         Checks.due("the text stays", x.count(4), 4);
         Checks.due("the one that held holds", x.of(0, 4), 16);
+        x = Checks.plain(10);
+        for (int i = 0; i < 30; i++) {
+            Checks.due("many faults", Checks.street(x, "add 1 h=0|h=0|h=0|h=0|h=0&h=0&h=0&h=0&!h=0;"), -53);
+        }
+        Checks.due("a street behind many faults", Checks.street(x, "tax 1 h=1;add 4 !h=1&e=1"), 0);
+        Checks.due("its clauses alone", x.of(0, 4), 14);
         x = Checks.plain(10, 20, 30);
         Checks.due("street", Checks.street(x, "ring;add 3 h=2"), 0);
         Checks.due("fault", Checks.street(x, "row;add 9 h=2;"), -24);
@@ -415,6 +421,9 @@ public final class HousesTest {
         Checks.nexts("0 at least", x, 0, 49);
         Checks.street(x, "add 60 h=1;tax 60 h=1");
         Checks.nexts("bounded only behind all", x, 10, 50);
+        x = Checks.plain(10);
+        Checks.due("ten clauses", Checks.street(x, "add 1 h=0;".repeat(9) + "add 2 h=0"), 0);
+        Checks.nexts("ten clauses", x, 21);
         x = Checks.plain(10, 50, 30);
         Checks.street(x, "add 1 b=0;add 2 b=1;add 4 b=2");
         Checks.nexts("all by how all was", x, 14, 31, 32);

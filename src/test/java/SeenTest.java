@@ -59,13 +59,17 @@ public final class SeenTest {
         Checks.due("before: only what some house earns now", x.before(-1), 0);
         Checks.street(x, "row");
         Checks.due("before: by the street that holds", x.before(-1), 1);
-        // a ring of four: 5 9 5 9 and every row with one 9 or one 5 beside is another one's past
         x = Checks.plain(5, 5, 5, 9);
         Checks.street(x, "ring");
         x.year();
         Checks.earned("ring", x, 5, 5, 5, 5);
         Checks.due("before: alike ones count once", x.before(-1), 1);
         Checks.due("before: what earned", x.before(3), 5);
+        x = Checks.plain(0, 99);
+        x.year();
+        Checks.due("before: least and most", x.before(-1), 1);
+        Checks.due("before: least", x.before(0), 0);
+        Checks.due("before: most", x.before(1), 99);
         x = Checks.town(0, 0, 9, 0, 0, 5, 5, 1, 9);
         x.year();
         Checks.earned("honest in year 0", x, 9, 9, 9);
@@ -134,6 +138,17 @@ public final class SeenTest {
         x = Checks.town(3, 0, 20, 0, 0, 10, 0, 0, 30);
         x.see(0, 10);
         Checks.due("lied: by a wide one", x.lied(0), 4);
+        x = Checks.plain(1, 2, 3, 4, 5, 6, 7);
+        x.see(6, 7);
+        x.see(4, 5);
+        Checks.due("lied: all of seven but house 5", x.lied(0), 127 - 32);
+        x = Checks.plain(9, 0, 5);
+        x.see(1, 0);
+        Checks.due("lied: said 0, not 1", x.lied(0), 5);
+        x = Checks.town(3, 0, 5, 0, 0, 7);
+        Checks.street(x, "add 1 h=0");
+        x.see(0, 1);
+        Checks.due("lied: said 0, not less", x.lied(0), 2);
         x = Checks.plain(1, 9, 5);
         Checks.street(x, "add 3 h=1&y=1");
         x.see(1, 8);
@@ -161,12 +176,19 @@ public final class SeenTest {
         Checks.due("wed: others too", Checks.plain(1, 20, 9).wed(0, 2), 3);
         // 40 30 20: all stays without; with 35 35 20 too
         Checks.due("wed two of three", Checks.plain(40, 30, 20).wed(0, 1), 2);
-        x = Checks.plain(0, 2);
-        Checks.street(x, "add 1 h=0;tax 99 h=0&e>0");
-        // house 0 without: 0 .. 9, 10 behind 10 years; with 1: 1 .. 10, 0 behind 10
-        Checks.due("wed: behind 10 years", x.wed(0, 1), 2);
-        x = Checks.plain(0, 1);
-        Checks.street(x, "add 1 h=1&y=9");
-        Checks.due("wed: behind 10 years, not 9", x.wed(0, 1), 1);
+        // house 0 stays at 99 without; with that it is 88, 98 behind 10 years, 99 behind 11
+        x = Checks.plain(99, 77);
+        Checks.street(x, "add 1 h<2");
+        Checks.due("wed: behind 10 years, not 11", x.wed(0, 1), 2);
+        Checks.due("wed: the same again", x.wed(0, 1), 2);
+        // by the wedding all earn 25, so none earns more than house 2 in year 9
+        x = Checks.plain(30, 20, 25);
+        Checks.street(x, "add 5 h=2&y=9&b=0");
+        Checks.due("wed: behind 10 years, not 9", x.wed(0, 1), 2);
+        x = Checks.plain(10, 10, 5);
+        Checks.street(x, "add 1 h=2");
+        Checks.due("wed: both runs begin now", x.wed(0, 1), 0);
+        x = Checks.plain(10, 10, 10, 10, 10, 10, 20);
+        Checks.due("wed of seven", x.wed(0, 6), 2);
     }
 }
