@@ -33,6 +33,7 @@ public final class MiddleThree {
     private static final int SHORT_RUN = 20;
     private static final int WED_RUN = 10;
     private static final int ODDS_GIFT = 9;
+    private static final int MOST_DIVISIONS = 100;
     private static final int ALL = 10;
     private static final int MOST_BEFORE = 4;
 
@@ -725,7 +726,7 @@ public final class MiddleThree {
     private static long lowest(int above, int below, int part) {
         int common = above;
         int other = below;
-        for (int step = 0; step < MOST_SIGNS && other != 0; step++) {
+        for (int step = 0; step < MOST_DIVISIONS && other != 0; step++) {
             int rest = common % other;
             common = other;
             other = rest;

@@ -155,7 +155,7 @@ public final class LanguageTest {
     private static void made(String code) {
         Matcher made = Pattern.compile("[^\n]*\\bnew\\b[^\n]*").matcher(code);
         while (made.find()) {
-            boolean field = made.group().matches(" +(private )?(final )?[A-Za-z]+(\\[\\])? [A-Za-z]+ = new .*");
+            boolean field = made.group().matches(" +(private )?final [A-Za-z]+(\\[\\])? [A-Za-z]+ = new .*");
             boolean filled = made.group().matches(" {12}(streets|tapes)\\[[a-z]\\] = new [A-Za-z]+\\(\\);");
             breach(!field && !filled, "made in a call:" + made.group());
         }
