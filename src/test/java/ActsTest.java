@@ -1,18 +1,11 @@
 /** Promises 26 to 32: judge, image, undo, act, trace, taken, count. */
 public final class ActsTest {
     public static void main(String[] args) {
-        judge();
-        image();
-        undo();
-        act();
-        actWraps();
-        trace();
-        taken();
-        count();
+        Checks.run(ActsTest.class);
         Checks.finish();
     }
 
-    private static void judge() {
+    static void p26_judge() {
         MiddleThree x = Checks.plain(5, 6, 7);
         Checks.due("judge: tape -1", x.judge(-1, 0), -1);
         Checks.due("judge: tape 6", x.judge(6, 0), -1);
@@ -56,7 +49,7 @@ public final class ActsTest {
         Checks.due("judge: none to look at, but bytes", x.judge(0, 0), -12);
     }
 
-    private static void image() {
+    static void p27_image() {
         MiddleThree x = new MiddleThree();
         Checks.due("image of none", x.image(), 0);
         x.house(0, 0, 5);
@@ -71,7 +64,7 @@ public final class ActsTest {
         Checks.due("undo to two", x.undo(), 2);
     }
 
-    private static void undo() {
+    static void p28_undo() {
         MiddleThree x = Checks.town(6, 1, 10, 5, 2, 20);
         Checks.due("undo: there is none", x.undo(), -3);
         x.row(0, 2, 3);
@@ -121,12 +114,9 @@ public final class ActsTest {
         Checks.due("undo once more", x.undo(), 2);
         x.house(6, 0, 0);
         Checks.due("a house behind an undo has a new row", x.row(2, 0, 1), 0);
-        undoNotes();
-        undoMore();
-        undoStreets();
     }
 
-    private static void undoNotes() {
+    static void p28_undoNotes() {
         MiddleThree x = Checks.plain(5);
         x.see(0, 5);
         x.book(5);
@@ -142,7 +132,7 @@ public final class ActsTest {
         Checks.due("what was booked is as it was", x.looked(), -5);
     }
 
-    private static void undoMore() {
+    static void p28_undoMore() {
         MiddleThree x = Checks.plain(5, 6, 7);
         x.see(1, 6);
         x.image();
@@ -185,7 +175,7 @@ public final class ActsTest {
         }
     }
 
-    private static void undoStreets() {
+    static void p28_undoStreets() {
         MiddleThree x = Checks.plain(5);
         x.image();
         Checks.street(x, "add 3 h=0");
@@ -210,7 +200,7 @@ public final class ActsTest {
         Checks.traced("act(" + house + ", " + act + ", 10)", x, bodies);
     }
 
-    private static void act() {
+    static void p29_act() {
         MiddleThree x = one();
         acts(x, 0, 0, 10, 10);
         acts(x, 0, 1, 9, 11, 10);
@@ -240,7 +230,7 @@ public final class ActsTest {
         }
     }
 
-    private static void actWraps() {
+    static void p29_actWraps() {
         MiddleThree x = one();
         Checks.due("meek earns", x.act(2, 0, 1000000000), -1294967294);
         Checks.due("proud earns", x.act(1, 0, Integer.MAX_VALUE), Integer.MIN_VALUE);
@@ -250,7 +240,7 @@ public final class ActsTest {
         Checks.due("house earns -5", x.act(0, 0, -5), -5);
     }
 
-    private static void trace() {
+    static void p30_trace() {
         MiddleThree x = one();
         Checks.due("trace: no act", x.trace(0), -1);
         x.act(3, 2, 10);
@@ -265,7 +255,7 @@ public final class ActsTest {
         Checks.due("trace: the latest", x.trace(1), -1);
     }
 
-    private static void taken() {
+    static void p31_taken() {
         MiddleThree x = one();
         int[] above = {-1, 0, 0, 0, 1, 2, 3};
         for (int kind = 0; kind <= 6; kind++) {
@@ -281,7 +271,7 @@ public final class ActsTest {
         Checks.due("taken: bad ahead of nothing", x.taken(7, 7), -2);
     }
 
-    private static void count() {
+    static void p32_count() {
         MiddleThree x = Checks.plain(1, 2);
         Checks.street(x, "row");
         Checks.feed(x, "tax ");

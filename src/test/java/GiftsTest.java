@@ -1,17 +1,11 @@
 /** Promises 13 to 17: gift, best, lots, build, down. */
 public final class GiftsTest {
     public static void main(String[] args) {
-        gift();
-        best();
-        lots();
-        build();
-        buildRows();
-        down();
-        runs();
+        Checks.run(GiftsTest.class);
         Checks.finish();
     }
 
-    private static void gift() {
+    static void p13_gift() {
         MiddleThree x = Checks.plain(10, 95);
         Checks.due("gift", x.gift(0, 30, 0), 30);
         Checks.due("gift, all", x.gift(0, 30, 1), 30);
@@ -38,7 +32,7 @@ public final class GiftsTest {
         Checks.due("the middle one's is lost", Checks.plain(5, 5, 5).gift(1, 50, 1), 0);
     }
 
-    private static void best() {
+    static void p14_best() {
         Checks.due("best of none", new MiddleThree().best(0), -5);
         Checks.due("best: bad ahead of none", new MiddleThree().best(100), -2);
         MiddleThree x = Checks.plain(10, 20);
@@ -59,7 +53,7 @@ public final class GiftsTest {
         Checks.due("best of nothing", x.best(5), 0);
     }
 
-    private static void lots() {
+    static void p15_lots() {
         Checks.due("lots of none", new MiddleThree().lots(), -5);
         Checks.due("lots of one", Checks.plain(4).lots(), -5);
         Checks.due("lots of two", Checks.plain(4, 9).lots(), -5);
@@ -78,7 +72,7 @@ public final class GiftsTest {
         Checks.due("lots: by kinds and places", x.lots(), 1);
     }
 
-    private static void build() {
+    static void p16_build() {
         MiddleThree x = new MiddleThree();
         Checks.due("build the first", x.build(0, 0, 5, 0), 0);
         Checks.due("build the first", x.build(0, 0, 5, 1), 5);
@@ -113,7 +107,7 @@ public final class GiftsTest {
         Checks.due("build: bad ahead of too many", x.build(0, 0, 100, 0), -2);
     }
 
-    private static void buildRows() {
+    static void p16_buildRows() {
         MiddleThree x = Checks.town(6, 0, 5, 0, 0, 50);
         for (int part = 0; part < 4; part++) {
             x.row(0, part, 4);
@@ -146,7 +140,7 @@ public final class GiftsTest {
         }
     }
 
-    private static void down() {
+    static void p17_down() {
         Checks.due("down of none", new MiddleThree().down(0), -5);
         Checks.due("down of none", new MiddleThree().down(1), -5);
         Checks.due("down: none ahead of that", new MiddleThree().down(2), -1);
@@ -175,33 +169,5 @@ public final class GiftsTest {
         }
         Checks.due("down: rows go along with their houses", x.down(0), 1);
         Checks.due("down: rows go along with their houses", x.down(1), 120);
-    }
-
-    /** How many years lie between a change and what comes of it. */
-    private static void runs() {
-        MiddleThree x = Checks.plain(0);
-        Checks.street(x, "add 1 h=0&e<9");
-        Checks.due("gift: behind 40 years", x.gift(0, 51, 0), 50);
-        Checks.due("gift: behind 40 years", x.gift(0, 50, 0), 50);
-        x = Checks.plain(0, 50);
-        Checks.street(x, "add 1 h=0&e<9");
-        // house 0 would earn 40 + n, 90 at most; house 1 50 + n, 99 at most
-        Checks.due("best: behind 40 years", x.best(49), 0);
-        Checks.due("best: behind 40 years", x.best(50), 0);
-        x.earn(0, 51);
-        Checks.due("best: behind 40 years, 90 already", x.best(3), 1);
-        x = Checks.plain(0);
-        Checks.street(x, "add 1 e<9");
-        Checks.due("build: behind 20 years", x.build(0, 0, 30, 1), 70);
-        x = Checks.plain(0, 30);
-        Checks.street(x, "add 1 e<9");
-        Checks.due("down: behind 20 years", x.down(1), 50);
-        // by 20 years a house 0 that earns 9 comes to 29, which is not yet taxed; one that earns 10 does
-        x = Checks.plain(10, 9);
-        Checks.street(x, "add 1 h=0;tax 99 h=0&e=3");
-        Checks.due("lots: behind 20 years", x.lots(), -5);
-        x = Checks.plain(11, 9);
-        Checks.street(x, "add 1 h=0;tax 99 h=0&e=3");
-        Checks.due("lots: behind 20 years", x.lots(), 1);
     }
 }

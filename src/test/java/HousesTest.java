@@ -1,26 +1,11 @@
 /** Promises 1 to 8: a new object, house, of, earn, row, feed, street, told. */
 public final class HousesTest {
     public static void main(String[] args) {
-        newObject();
-        house();
-        ofAnswers();
-        ofPlain();
-        ofKinds();
-        ofWide();
-        ofSaint();
-        ofLying();
-        ofTold();
-        earn();
-        row();
-        feed();
-        faults();
-        streets();
-        clauses();
-        told();
+        Checks.run(HousesTest.class);
         Checks.finish();
     }
 
-    private static void newObject() {
+    static void p01_newObject() {
         MiddleThree x = new MiddleThree();
         for (int what = 0; what <= 5; what++) {
             Checks.due("new: count(" + what + ")", x.count(what), 0);
@@ -45,7 +30,7 @@ public final class HousesTest {
         Checks.due("objects share nothing", other.count(0), 2);
     }
 
-    private static void house() {
+    static void p02_house() {
         MiddleThree x = new MiddleThree();
         Checks.due("house kind -1", x.house(-1, 0, 0), -1);
         Checks.due("house kind 7", x.house(7, 0, 0), -1);
@@ -69,7 +54,7 @@ public final class HousesTest {
         }
     }
 
-    private static void ofAnswers() {
+    static void p03_ofAnswers() {
         MiddleThree x = Checks.plain(5);
         Checks.due("of: house -1", x.of(-1, 0), -1);
         Checks.due("of: house 1", x.of(1, 0), -1);
@@ -80,7 +65,7 @@ public final class HousesTest {
         Checks.due("of: earns as before", x.of(0, 2), 5);
     }
 
-    private static void ofPlain() {
+    static void p03_ofPlain() {
         Checks.nexts("one", Checks.plain(5), 5);
         Checks.nexts("two", Checks.plain(5, 9), 5, 9);
         Checks.nexts("row, its own is the least", Checks.plain(3, 1, 9), 3, 3, 9);
@@ -101,7 +86,7 @@ public final class HousesTest {
         Checks.nexts("ring of one", ring, 7);
     }
 
-    private static void ofKinds() {
+    static void p03_ofKinds() {
         Checks.nexts("proud: 5 times v at least", Checks.town(1, 9, 3), 45);
         Checks.nexts("proud: more than that", Checks.town(1, 9, 46), 46);
         Checks.nexts("proud of 0", Checks.town(1, 0, 0), 0);
@@ -113,7 +98,7 @@ public final class HousesTest {
         Checks.nexts("lying: less", Checks.town(0, 0, 10, 5, 9, 90, 0, 0, 20), 10, 20, 20);
     }
 
-    private static void ofWide() {
+    static void p03_ofWide() {
         Checks.nexts("wide alone", Checks.town(3, 0, 8), 8);
         Checks.nexts("two wide: the lesser", Checks.town(3, 0, 8, 3, 0, 5), 5, 5);
         Checks.nexts("wide at the end of three", Checks.town(3, 0, 1, 0, 0, 50, 0, 0, 9), 9, 9, 9);
@@ -139,7 +124,7 @@ public final class HousesTest {
         Checks.due("wide hears what others say", x.of(0, 4), 50);
     }
 
-    private static void ofSaint() {
+    static void p03_ofSaint() {
         MiddleThree x = Checks.town(4, 1, 91);
         Checks.nexts("saint: the half, cut, in year 0", x, 45);
         Checks.years(x, 1);
@@ -161,7 +146,7 @@ public final class HousesTest {
         Checks.nexts("saint of 0: year 2", x, 20);
     }
 
-    private static void ofLying() {
+    static void p03_ofLying() {
         MiddleThree x = Checks.town(0, 0, 40, 0, 0, 30, 5, 0, 50);
         Checks.due("lying says 0", x.of(2, 3), 0);
         Checks.due("others say what they earn", x.of(1, 3), 30);
@@ -180,7 +165,7 @@ public final class HousesTest {
         Checks.nexts("a lying one knows what it earns", x, 60, 50, 70);
     }
 
-    private static void ofTold() {
+    static void p03_ofTold() {
         MiddleThree x = Checks.town(0, 0, 30, 0, 0, 10, 6, 0, 20, 0, 0, 50, 0, 0, 40);
         int[] sorted = {10, 20, 30, 40, 50};
         for (int n = 0; n <= 4; n++) {
@@ -204,7 +189,7 @@ public final class HousesTest {
         }
     }
 
-    private static void earn() {
+    static void p04_earn() {
         MiddleThree x = Checks.plain(5, 6);
         Checks.due("earn", x.earn(1, 0), 6);
         Checks.due("earn", x.earn(1, 99), 0);
@@ -217,7 +202,7 @@ public final class HousesTest {
         Checks.earned("earn", x, 5, 7);
     }
 
-    private static void row() {
+    static void p05_row() {
         MiddleThree x = Checks.town(3, 0, 5, 6, 0, 5);
         Checks.due("row", x.row(1, 3, 4), 0);
         Checks.due("row: what it was", x.row(1, 3, 2), 4);
@@ -235,7 +220,7 @@ public final class HousesTest {
         Checks.due("row: as it was", x.row(1, 0, 1), 1);
     }
 
-    private static void feed() {
+    static void p06_feed() {
         MiddleThree x = new MiddleThree();
         Checks.due("feed -1", x.feed(-1), -2);
         Checks.due("feed 128", x.feed(128), -2);
@@ -258,7 +243,7 @@ public final class HousesTest {
         Checks.due("the text is empty", x.count(4), 0);
     }
 
-    private static void faults() {
+    static void p07_faults() {
         fault("", 0);
         fault("x", 0);
         fault(" ring", 0);
@@ -335,7 +320,7 @@ public final class HousesTest {
         Checks.due("\"" + text + "\" is a street", Checks.street(new MiddleThree(), text), 0);
     }
 
-    private static void streets() {
+    static void p07_streets() {
         reads("ring");
         reads("row");
         reads("ring;row;ring");
@@ -386,7 +371,7 @@ public final class HousesTest {
         Checks.due("add 2 " + e, x.of(1, 4), want ? 49 : 47);
     }
 
-    private static void clauses() {
+    static void p07_clauses() {
         for (String test : new String[] {"h=1", "h<2", "h>0", "k=1", "k<2", "k>0", "v=3", "v<4", "v>2", "e=4", "e<5",
             "e>3", "b=1", "b<2", "b>0", "y=2", "y<3", "y>1", "h<99", "h=01", "e=04", "h>00"}) {
             holds(test, true);
@@ -432,7 +417,7 @@ public final class HousesTest {
         Checks.nexts("adds come behind the half and the pride", x, 45, 50);
     }
 
-    private static void told() {
+    static void p08_told() {
         MiddleThree x = Checks.plain(10, 20, 33);
         Checks.due("told -1", x.told(-1), -1);
         Checks.due("told 3", x.told(3), -1);

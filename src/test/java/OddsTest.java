@@ -1,10 +1,7 @@
 /** Promises 22 to 25: odds, mean, book, looked. */
 public final class OddsTest {
     public static void main(String[] args) {
-        odds();
-        mean();
-        book();
-        looked();
+        Checks.run(OddsTest.class);
         Checks.finish();
     }
 
@@ -13,7 +10,7 @@ public final class OddsTest {
         Checks.due("odds(" + house + ", " + n + ") below", x.odds(house, n, 1), below);
     }
 
-    private static void odds() {
+    static void p22_odds() {
         MiddleThree x = Checks.plain(5, 20);
         odds(x, 0, 0, 1, 1);
         odds(x, 0, 5, 1, 1);
@@ -54,7 +51,7 @@ public final class OddsTest {
         Checks.due("mean(" + n + ") below", x.mean(n, 1), below);
     }
 
-    private static void mean() {
+    static void p23_mean() {
         MiddleThree x = Checks.plain(5, 20);
         mean(x, 1, 25, 2);
         mean(x, 60, 25, 2);
@@ -76,7 +73,7 @@ public final class OddsTest {
         mean(x, 60, 99, 1);
     }
 
-    private static void book() {
+    static void p24_book() {
         MiddleThree x = new MiddleThree();
         Checks.due("book", x.book(0), 1);
         Checks.due("book", x.book(99), 2);
@@ -94,7 +91,7 @@ public final class OddsTest {
         Checks.due("book: again", x.book(7), 1);
     }
 
-    private static void looked() {
+    static void p25_looked() {
         MiddleThree x = new MiddleThree();
         Checks.due("looked without houses", x.looked(), -3);
         x.book(1);

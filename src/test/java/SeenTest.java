@@ -1,15 +1,11 @@
 /** Promises 18 to 21: before, see, lied, wed. */
 public final class SeenTest {
     public static void main(String[] args) {
-        before();
-        beforeRows();
-        see();
-        lied();
-        wed();
+        Checks.run(SeenTest.class);
         Checks.finish();
     }
 
-    private static void before() {
+    static void p18_before() {
         MiddleThree x = Checks.plain(5, 7);
         Checks.due("before: year 0", x.before(-1), -8);
         Checks.due("before: year 0", x.before(1), -8);
@@ -36,7 +32,7 @@ public final class SeenTest {
         Checks.due("before without houses", x.before(0), -1);
     }
 
-    private static void beforeRows() {
+    static void p18_beforeRows() {
         MiddleThree x = Checks.town(1, 9, 45, 0, 0, 3);
         x.year();
         Checks.due("before: 3 3 and 45 3", x.before(-1), 2);
@@ -80,7 +76,7 @@ public final class SeenTest {
         Checks.due("before: who lied then", x.before(1), 5);
     }
 
-    private static void see() {
+    static void p19_see() {
         MiddleThree x = Checks.plain(5, 6);
         Checks.due("see", x.see(0, 0), 1);
         Checks.due("see", x.see(1, 99), 2);
@@ -103,7 +99,7 @@ public final class SeenTest {
         Checks.due("see: again", x.see(0, 5), 1);
     }
 
-    private static void lied() {
+    static void p20_lied() {
         MiddleThree x = new MiddleThree();
         Checks.due("lied: no houses", x.lied(0), 0);
         Checks.due("true: no houses", x.lied(1), 1);
@@ -159,7 +155,7 @@ public final class SeenTest {
         Checks.earned("lied changes nothing", x, 1, 9, 5);
     }
 
-    private static void wed() {
+    static void p21_wed() {
         MiddleThree x = Checks.plain(10, 21);
         Checks.due("wed: both earn 15", x.wed(0, 1), 2);
         Checks.due("wed: both earn 15", x.wed(1, 0), 2);

@@ -1,16 +1,11 @@
 /** Promises 33 to 36: tape, item, read, shift. */
 public final class TapesTest {
     public static void main(String[] args) {
-        tape();
-        item();
-        items();
-        read();
-        shift();
-        shiftRefusals();
+        Checks.run(TapesTest.class);
         Checks.finish();
     }
 
-    private static void tape() {
+    static void p33_tape() {
         MiddleThree x = new MiddleThree();
         for (int sort = 0; sort <= 4; sort++) {
             Checks.due("tape", x.tape(sort, sort, 60), 1);
@@ -41,7 +36,7 @@ public final class TapesTest {
         }
     }
 
-    private static void item() {
+    static void p34_item() {
         MiddleThree x = new MiddleThree();
         Checks.due("item: tape -1", x.item(-1, 0, 0), -1);
         Checks.due("item: tape 6", x.item(6, 0, 0), -1);
@@ -65,7 +60,7 @@ public final class TapesTest {
         Checks.due(v + " in sort " + sort, x.read(2, 0), due);
     }
 
-    private static void items() {
+    static void p34_items() {
         fits(0, 127, 127);
         fits(0, 128, -128);
         fits(0, 200, -56);
@@ -87,7 +82,7 @@ public final class TapesTest {
         fits(4, 4294967296L, 1);
     }
 
-    private static void read() {
+    static void p35_read() {
         MiddleThree x = new MiddleThree();
         Checks.due("read: nothing", x.read(0, 0), Checks.NO);
         x.tape(0, 2, 2);
@@ -117,7 +112,7 @@ public final class TapesTest {
         Checks.due(when + ": its end", x.read(tape, want.length), Checks.NO);
     }
 
-    private static void shift() {
+    static void p36_shift() {
         MiddleThree x = tapes();
         Checks.due("shift", x.shift(0, 3, 1, 1, 2), 2);
         holds("shift", x, 1, 0, 13, 14);
@@ -134,7 +129,7 @@ public final class TapesTest {
         Checks.due("shift none, at both ends", x.shift(0, 5, 1, 3, 0), 0);
     }
 
-    private static void shiftRefusals() {
+    static void p36_shiftRefusals() {
         MiddleThree x = tapes();
         Checks.due("shift: tape -1", x.shift(-1, 0, 0, 0, 0), -1);
         Checks.due("shift: tape 6", x.shift(6, 0, 0, 0, 0), -1);

@@ -1,14 +1,11 @@
 /** Promises 9 to 12: year, at, stays, swings. */
 public final class YearsTest {
     public static void main(String[] args) {
-        year();
-        at();
-        stays();
-        swings();
+        Checks.run(YearsTest.class);
         Checks.finish();
     }
 
-    private static void year() {
+    static void p09_year() {
         MiddleThree x = Checks.plain(1, 9, 1, 9);
         Checks.due("year", x.year(), 1);
         Checks.earned("all at once", x, 1, 1, 9, 9);
@@ -36,7 +33,7 @@ public final class YearsTest {
         Checks.due("what is asked goes beyond", x.at(60, 0), 70);
     }
 
-    private static void at() {
+    static void p10_at() {
         MiddleThree x = Checks.plain(10, 20, 30);
         Checks.street(x, "add 1 h=0;tax 1 h=2");
         Checks.due("at 0", x.at(0, 0), 10);
@@ -65,7 +62,7 @@ public final class YearsTest {
         Checks.due("at goes on from the year", x.at(13, 0), 12);
     }
 
-    private static void stays() {
+    static void p11_stays() {
         Checks.due("stays without houses", new MiddleThree().stays(), 0);
         Checks.due("stays at once", Checks.plain(5, 6).stays(), 0);
         Checks.due("stays behind 1", Checks.plain(1, 9, 1, 9).stays(), 1);
@@ -85,7 +82,7 @@ public final class YearsTest {
         Checks.earned("stays changes nothing", x, 10);
     }
 
-    private static void swings() {
+    static void p12_swings() {
         Checks.due("swings without houses", new MiddleThree().swings(), 1);
         Checks.due("swings: all stays", Checks.plain(1, 9, 1, 9).swings(), 1);
         MiddleThree x = Checks.plain(1, 9, 1, 9);
