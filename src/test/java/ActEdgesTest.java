@@ -199,6 +199,37 @@ public final class ActEdgesTest {
         }
     }
 
+    static void p28_rowsOfSevenHouses() {
+        MiddleThree x = Checks.town(6, 0, 5, 6, 0, 5, 6, 0, 5, 6, 0, 5, 6, 0, 5, 6, 0, 5, 6, 0, 5);
+        for (int h = 0; h <= 6; h++) {
+            Checks.row(x, h, h % 5, 4, (h + 1) % 5, (h + 2) % 5);
+        }
+        x.image();
+        for (int h = 0; h <= 6; h++) {
+            Checks.row(x, h, 0, 0, 0, 0);
+        }
+        x.undo();
+        for (int h = 0; h <= 6; h++) {
+            int[] due = {h % 5, 4, (h + 1) % 5, (h + 2) % 5};
+            for (int part = 0; part <= 3; part++) {
+                Checks.due("house " + h + ", part " + part, x.row(h, part, 0), due[part]);
+            }
+        }
+    }
+
+    static void p28_aHouseThatComesBehindAnUndoIsNew() {
+        MiddleThree x = Checks.plain(5);
+        x.image();
+        x.house(6, 9, 9);
+        Checks.row(x, 1, 4, 4, 4, 4);
+        x.undo();
+        Checks.due("its number", x.house(6, 1, 1), 1);
+        Checks.due("its v", x.of(1, 1), 1);
+        for (int part = 0; part <= 3; part++) {
+            Checks.due("part " + part, x.row(1, part, 0), 0);
+        }
+    }
+
     static void p28_theImageIsNotChangedByWhatComesBehindAnUndo() {
         MiddleThree x = Checks.town(6, 3, 50);
         x.image();
@@ -372,6 +403,8 @@ public final class ActEdgesTest {
         Checks.traced("a lying one says", x, 11, 30, 10);
         x.act(2, 0, 4);
         Checks.traced("a lying one earns", x, 30, 10);
+        x.act(2, 2, 4);
+        Checks.traced("a lying one tells", x, 60, 12, 11, 30, 10);
         x.act(3, 2, 4);
         Checks.traced("a saint tells", x, 12, 51, 20, 11, 50, 10);
         x.act(4, 2, 4);

@@ -317,6 +317,23 @@ public final class GiftEdgesTest {
         Checks.due("how much", x.build(0, 0, 0, 1), 75);
     }
 
+    static void p16_rowsGoAlongPartByPart() {
+        // the told one takes the most by one part alone, which tells behind 20 years if it is of the year ahead
+        for (int part = 0; part <= 3; part++) {
+            for (int years = 0; years <= 3; years++) {
+                MiddleThree x = Checks.town(6, 0, 5, 0, 0, 50);
+                x.row(0, part, 4);
+                Checks.street(x, "tax 99 h=0");
+                Checks.years(x, years);
+                x.earn(0, 5);
+                x.earn(1, 50);
+                // at place 0: the new one is taxed to 0, the least the told one sees, 50 the most
+                boolean tells = (years + 19) % 4 == part;
+                Checks.due("part " + part + ", year " + years, x.build(0, 0, 30, 1), tells ? 100 : 80);
+            }
+        }
+    }
+
     static void p16_behind20Years() {
         Checks.due("20 and 50", with("add 1 e<9", 0).build(0, 0, 30, 1), 70);
     }
@@ -373,6 +390,21 @@ public final class GiftEdgesTest {
         Checks.row(x, 2, 4, 4, 4, 4);
         Checks.due("the row, which", x.down(0), 1);
         Checks.due("the row, how much", x.down(1), 120);
+    }
+
+    static void p17_rowsGoAlongPartByPart() {
+        // without house 0 the told one sees 0 and 45, and takes 45 by one part alone; without itself there are 45
+        for (int part = 0; part <= 3; part++) {
+            for (int years = 0; years <= 3; years++) {
+                MiddleThree x = Checks.town(2, 0, 0, 2, 0, 0, 1, 9, 45, 6, 0, 5);
+                x.row(3, part, 4);
+                Checks.years(x, years);
+                x.earn(3, 5);
+                boolean tells = (years + 19) % 4 == part;
+                Checks.due("which, part " + part + ", year " + years, x.down(0), 0);
+                Checks.due("how much, part " + part + ", year " + years, x.down(1), tells ? 90 : 45);
+            }
+        }
     }
 
     static void p17_behind20Years() {

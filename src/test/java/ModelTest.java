@@ -4,7 +4,7 @@ import java.util.Random;
 
 /** Runs of random calls on MiddleThree and on Model, which must answer alike; then many texts alone. */
 public final class ModelTest {
-    private static final int RUNS = 700;
+    private static final int RUNS = 400;
     private static final int CALLS = 512;
     private static final int TEXTS = 20000;
 

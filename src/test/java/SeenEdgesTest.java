@@ -261,6 +261,16 @@ public final class SeenEdgesTest {
         Checks.due("house 6 alone; without it 50", x.lied(0), 64);
     }
 
+    static void p20_said0() {
+        MiddleThree x = Checks.plain(9, 0, 5);
+        x.see(1, 0);
+        Checks.due("not 1 or more: the middle one of 0, 0 and 5 or 9", x.lied(0), 5);
+        x = Checks.town(3, 0, 5, 0, 0, 7);
+        Checks.street(x, "add 1 h=0");
+        x.see(0, 1);
+        Checks.due("not below 0: the lesser of 5 and 0, and 1 more", x.lied(0), 2);
+    }
+
     static void p20_itself() {
         MiddleThree x = Checks.plain(30, 20, 40);
         x.see(1, 30);
@@ -354,6 +364,12 @@ public final class SeenEdgesTest {
     static void p21_theseToo() {
         Checks.due("these alone", Checks.plain(10, 20).wed(0, 1), 2);
         Checks.due("others too", Checks.plain(1, 20, 9).wed(0, 2), 3);
+    }
+
+    static void p21_thanWithoutThat() {
+        // house 2 earns something else than now, but not than without the wedding
+        Checks.due("both as they were", with("add 1 h=2", 10, 10, 5).wed(0, 1), 0);
+        Checks.due("what they come to anyhow", with("add 50 h<2&y=0;add 50 h<2&y=1", 10, 20).wed(0, 1), 0);
     }
 
     static void p21_behind10Years() {

@@ -140,6 +140,17 @@ public final class StreetEdgesTest {
         Checks.nexts("the add", x, 20, 20, 23);
     }
 
+    static void p07_nothingIsLeftOfFaultsAhead() {
+        MiddleThree x = Checks.plain(10);
+        for (int i = 0; i < 9; i++) {
+            // 44 signs, and 9 tests each time
+            Checks.due("a fault", Checks.street(x, "add 1 h=0|h=0|h=0|h=0|h=0&h=0&h=0&h=0&!h=0;"), -53);
+        }
+        Checks.due("a street", Checks.street(x, "tax 1 h=1;add 4 !h=1&e=1"), 0);
+        Checks.due("its clauses alone", x.of(0, 4), 14);
+        Checks.due("a row", x.told(1), 0);
+    }
+
     static void p07_noneHoldsBehindAFaultAtFirst() {
         MiddleThree x = Checks.plain(10, 20, 30);
         Checks.due("a fault", Checks.street(x, "ring;add 9 h=2;"), -25);
